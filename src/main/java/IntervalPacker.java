@@ -90,10 +90,10 @@ public final class IntervalPacker {
 
     public IntervalPacker() {
         int[] chances = new int[CHANCES];
-        Model model = new Model(chances);
         plain = new Row(PLAIN_MOST);
         packed = new Row(PACKED_MOST);
         source = new BitSource(chances);
+        Model model = new Model(chances, source);
         reader = new Unpacking(model, source);
         writer = new Packing(model, new BitSink(chances));
     }
@@ -285,10 +285,9 @@ public final class IntervalPacker {
             }
         }
 
-        /** The caller has looked at the distance: it is 1 .. size. */
-        void repeat(int distance, int n) {
+        void repeat(long distance, int n) {
             for (int i = 0; i < n; i++) {
-                append(bytes[size - distance]);
+                append(byteBack(size, distance));
             }
         }
 
@@ -363,10 +362,14 @@ public final class IntervalPacker {
         }
 
         void expectByte(int due) {
+            expectWithin(due, due);
+        }
+
+        void expectWithin(int least, int most) {
             if (!has(1)) {
                 return;
             }
-            if (bytes[next] != due) {
+            if (bytes[next] < least || bytes[next] > most) {
                 fail(FORM, next);
                 return;
             }
@@ -504,7 +507,6 @@ public final class IntervalPacker {
             next++;
         }
 
-        @Override
         int codeBit(int chance, int wanted) {
             shift();
             if (broken) {
@@ -523,7 +525,6 @@ public final class IntervalPacker {
             return bit;
         }
 
-        @Override
         int codeEvenBit(int wanted) {
             shift();
             if (broken) {
@@ -593,7 +594,6 @@ public final class IntervalPacker {
             }
         }
 
-        @Override
         int codeBit(int chance, int wanted) {
             shift();
             if (broken) {
@@ -610,7 +610,6 @@ public final class IntervalPacker {
             return wanted;
         }
 
-        @Override
         int codeEvenBit(int wanted) {
             shift();
             if (broken) {
@@ -645,8 +644,9 @@ public final class IntervalPacker {
         int length;
         long distance;
 
-        Model(int[] chances) {
+        Model(int[] chances, BitLine line) {
             this.chances = chances;
+            this.line = line;
         }
 
         void setProperties(int properties) {
@@ -789,6 +789,7 @@ public final class IntervalPacker {
 
     /** Reads a container, item by item; behind a fault every step does nothing. */
     private static final class Unpacking {
+        // No field is ever null: before the first container the cursor stands at no byte of these.
         final Row given = new Row(PLAIN_MOST);
         final Cursor cursor = new Cursor(given.bytes);
         final int[] counts = new int[COUNTS];
@@ -884,11 +885,8 @@ public final class IntervalPacker {
             readHeadNumbers();
             cursor.expectByte(FILTER);
             cursor.expectByte(1);
-            if (cursor.has(1) && cursor.bytes[cursor.next] > DICTIONARY_SIZE_MOST) {
-                cursor.fail(FORM, cursor.next);
-            }
-            for (int i = cursor.next + 1; i < sumPlace && cursor.isSound(); i++) {
-                cursor.next = i;
+            cursor.expectWithin(0, DICTIONARY_SIZE_MOST);
+            for (int i = cursor.next; i < sumPlace; i++) {
                 cursor.expectByte(0);
             }
             cursor.widen();
@@ -1021,7 +1019,7 @@ public final class IntervalPacker {
             if (model.distanceOf(0) > p || model.length > until - given.size) {
                 return false;
             }
-            given.repeat((int) model.distanceOf(0), model.length);
+            given.repeat(model.distanceOf(0), model.length);
             return true;
         }
 
@@ -1093,6 +1091,7 @@ public final class IntervalPacker {
         final Row draft = new Row(PACKED_MOST);
         private final Model model;
         private final BitSink sink;
+        private final int[] end = new int[6];
         private Row plain;
         private int sort;
         private int properties;
@@ -1290,7 +1289,6 @@ public final class IntervalPacker {
         }
 
         void writeEnd() {
-            int[] end = new int[6];
             int quarters = indexSize / 4 - 1;
             end[0] = quarters & 255;
             end[1] = quarters >>> 8;

@@ -1,0 +1,71 @@
+/** Counts the answers that are not the ones that are due; what every test here is written with. */
+final class Due {
+    private int looked;
+    private int wrong;
+
+    void is(String call, long got, long want) {
+        looked++;
+        if (got != want) {
+            wrong++;
+            System.out.println(call + " answered " + got + ", due is " + want);
+        }
+    }
+
+    void is(String call, String got, String want) {
+        looked++;
+        if (!got.equals(want)) {
+            wrong++;
+            System.out.println(call + " answered " + got + ", due is " + want);
+        }
+    }
+
+    void is(String call, boolean got, boolean want) {
+        is(call, got ? 1 : 0, want ? 1 : 0);
+    }
+
+    void end() {
+        System.out.println(looked + " answers, " + wrong + " of them wrong");
+        if (wrong != 0 || looked == 0) {
+            System.exit(1);
+        }
+    }
+
+    /** A row gets the bytes of a text of hexadecimal digits, in place of what it has. */
+    static void fill(IntervalPacker x, String hex, boolean packed) {
+        x.cut(0, packed);
+        for (int i = 0; i < hex.length(); i += 2) {
+            int b = Integer.parseInt(hex.substring(i, i + 2), 16);
+            if (x.feed(b, 1, packed) < 0) {
+                throw new IllegalStateException("the row is too short for the test");
+            }
+        }
+    }
+
+    static void fillText(IntervalPacker x, String text) {
+        fill(x, hexOf(text), false);
+    }
+
+    static String hexOf(String text) {
+        StringBuilder hex = new StringBuilder();
+        for (char c : text.toCharArray()) {
+            hex.append(String.format("%02x", (int) c));
+        }
+        return hex.toString();
+    }
+
+    static String hexOf(IntervalPacker x, boolean packed) {
+        StringBuilder hex = new StringBuilder();
+        for (int i = 0; x.at(i, packed) != IntervalPacker.NONE; i++) {
+            hex.append(String.format("%02x", x.at(i, packed)));
+        }
+        return hex.toString();
+    }
+
+    static String countsOf(IntervalPacker x) {
+        StringBuilder counts = new StringBuilder();
+        for (int i = 0; i <= 10; i++) {
+            counts.append(i == 0 ? "" : " ").append(x.count(i));
+        }
+        return counts.toString();
+    }
+}
