@@ -1289,9 +1289,8 @@ public final class IntervalPacker {
         }
 
         void writeEnd() {
-            int quarters = indexSize / 4 - 1;
-            end[0] = quarters & 255;
-            end[1] = quarters >>> 8;
+            // The index of one block at most is so short that the lowest byte holds the number.
+            end[0] = indexSize / 4 - 1;
             end[5] = sort;
             draft.appendLowFirst(sumFour(end, 0, end.length), 4);
             draft.appendAll(end, 0, end.length);
