@@ -313,17 +313,12 @@ public final class IntervalPacker {
     private static final class Cursor {
         private static final int SOUND = 0;
 
-        int[] bytes;
+        int[] bytes = new int[0];
         int size;
         int end;
         int next;
         int fault;
-        int place;
-
-        Cursor(int[] bytes) {
-            this.bytes = bytes;
-            place = NONE;
-        }
+        int place = NONE;
 
         void begin(Row row) {
             bytes = row.bytes;
@@ -789,9 +784,8 @@ public final class IntervalPacker {
 
     /** Reads a container, item by item; behind a fault every step does nothing. */
     private static final class Unpacking {
-        // No field is ever null: before the first container the cursor stands at no byte of these.
         final Row given = new Row(PLAIN_MOST);
-        final Cursor cursor = new Cursor(given.bytes);
+        final Cursor cursor = new Cursor();
         final int[] counts = new int[COUNTS];
         private final Model model;
         private final BitSource source;
