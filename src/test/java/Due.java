@@ -1,3 +1,5 @@
+import java.util.function.LongSupplier;
+
 /**
  * Counts the answers that are not the ones that are due; what every test here is written with. Some
  * tests ask an object more than the 512 calls that are promised: the class has no such limit of its own.
@@ -31,6 +33,43 @@ final class Due {
         if (wrong != 0 || looked == 0) {
             System.exit(1);
         }
+    }
+
+    /** Packed bytes that are a container: what they give, and that nothing else becomes of them. */
+    IntervalPacker takes(String what, String container, String plain) {
+        IntervalPacker x = new IntervalPacker();
+        x.feed(0xABCDEF, 3, false);
+        fill(x, container, true);
+        is(what + ", unpack()", x.unpack(), plain.length() / 2);
+        is(what + ", where()", x.where(), IntervalPacker.NONE);
+        is(what + ", PLAIN", hexOf(x, false), plain);
+        is(what + ", PACKED", hexOf(x, true), container);
+        return x;
+    }
+
+    /** Packed bytes that are none: the fault and its place, and that PLAIN and PACKED stay as they were. */
+    IntervalPacker refuses(String what, String container, int fault, int place) {
+        IntervalPacker x = new IntervalPacker();
+        x.feed(0xABCDEF, 3, false);
+        fill(x, container, true);
+        is(what + ", unpack()", x.unpack(), fault);
+        is(what + ", where()", x.where(), place);
+        is(what + ", PLAIN", hexOf(x, false), "abcdef");
+        is(what + ", PACKED", hexOf(x, true), container);
+        return x;
+    }
+
+    /** A call that is refused: its answer, and that all that the object answers is as before. */
+    void refusesCall(String call, IntervalPacker x, LongSupplier made, long want) {
+        String before = stateOf(x);
+        is(call, made.getAsLong(), want);
+        is("all behind " + call, stateOf(x), before);
+    }
+
+    /** All that an object answers without being changed, as one text. */
+    static String stateOf(IntervalPacker x) {
+        return "PLAIN " + hexOf(x, false) + " PACKED " + hexOf(x, true) + " where " + x.where() + " range " + x.range()
+                + " code " + x.code() + " counts " + countsOf(x) + " sums " + x.sum(false) + " " + x.sum(true);
     }
 
     /** A row gets the bytes of a text of hexadecimal digits, in place of what it has. */

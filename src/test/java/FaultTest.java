@@ -30,18 +30,11 @@ public final class FaultTest {
     }
 
     private static void refused(String what, String container, int fault, int place) {
-        IntervalPacker x = new IntervalPacker();
-        x.feed(0xABCDEF, 3, false);
-        Due.fill(x, container, true);
-        due.is(what + ", unpack()", x.unpack(), fault);
-        due.is(what + ", where()", x.where(), place);
-        due.is(what + ", PLAIN", Due.hexOf(x, false), "abcdef");
-        due.is(what + ", PACKED", Due.hexOf(x, true), container);
+        due.refuses(what, container, fault, place);
     }
 
-    /** One byte of a container becomes another one. */
     private static String with(String container, int place, int b) {
-        return container.substring(0, 2 * place) + String.format("%02x", b) + container.substring(2 * place + 2);
+        return Maker.with(container, place, b);
     }
 
     private static String withHead(String head, String chunks) {

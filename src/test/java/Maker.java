@@ -1,6 +1,6 @@
 import java.util.zip.CRC32;
 
-/** Makes containers out of parts, as texts of hexadecimal digits; its sums are the Java library's. */
+/** Makes containers out of parts, as texts of hexadecimal digits; SUM4 is the Java library's. */
 final class Maker {
     private Maker() {
     }
@@ -11,6 +11,23 @@ final class Maker {
             crc.update(Integer.parseInt(hex.substring(i, i + 2), 16));
         }
         return lowFirst(crc.getValue(), 4);
+    }
+
+    /** The library has no such sum: here it is taken byte by byte, with a number for each byte. */
+    static long sumEightOf(String hex) {
+        long sum = -1L;
+        for (int i = 0; i < hex.length(); i += 2) {
+            long low = (sum ^ Integer.parseInt(hex.substring(i, i + 2), 16)) & 255;
+            for (int bit = 0; bit < 8; bit++) {
+                low = low >>> 1 ^ (low & 1) * 0xC96C5795D7870F42L;
+            }
+            sum = sum >>> 8 ^ low;
+        }
+        return ~sum;
+    }
+
+    static String check(int sort, String plain) {
+        return sort == 0 ? "" : sort == 1 ? sumFour(plain) : lowFirst(sumEightOf(plain), 8);
     }
 
     static String lowFirst(long number, int n) {
@@ -91,5 +108,18 @@ final class Maker {
     static String ofChunks(String head, String chunks, int gift) {
         String block = head + chunks + "00";
         return start(0) + filled(block) + close(index(block.length() / 2, gift), 0);
+    }
+
+    /** A whole container of one block with the check of a sort. */
+    static String checked(int sort, String chunks, String plain) {
+        String block = head() + chunks + "00";
+        String check = check(sort, plain);
+        return start(sort) + filled(block) + check
+                + close(index((block.length() + check.length()) / 2, plain.length() / 2), sort);
+    }
+
+    /** One byte of a container becomes another one. */
+    static String with(String container, int place, int b) {
+        return container.substring(0, 2 * place) + String.format("%02x", b) + container.substring(2 * place + 2);
     }
 }

@@ -18,13 +18,7 @@ public final class UnpackTest {
     }
 
     private static IntervalPacker unpacks(String container, String plain) {
-        IntervalPacker x = new IntervalPacker();
-        Due.fill(x, container, true);
-        x.feed(0xABCD, 2, false);
-        due.is("unpack()", x.unpack(), plain.length() / 2);
-        due.is("where()", x.where(), -1);
-        due.is("PLAIN", Due.hexOf(x, false), plain);
-        return x;
+        return due.takes("a container", container, plain);
     }
 
     /** Containers of another program for this format: each sort, three blocks with numbers, other properties. */
