@@ -29,9 +29,11 @@ public final class CoderBoundsTest {
         bitsAsThoseOfB();
         statesBehindALiteral();
         statesBehindMatches();
+        probabilitiesForEachStateAndQ();
         distancesMoveUp();
         lengthsAtTheirBounds();
         lengthsOfTheirOwn();
+        lengthsForEachQ();
         distancesByLength();
         distancesAtTheirBounds();
         distancesBeyondAll();
@@ -229,18 +231,21 @@ public final class CoderBoundsTest {
 
     /** "The next byte of the data": without one the data are not as said, and that bit was not taken. */
     private static void shiftWithoutAByte() {
-        Steps s = new Steps(93).literals("6162636465");
-        String data = s.data();
-        int before = -1;
-        for (int m = 5; m < data.length() / 2; m++) {
-            String container = Maker.ofChunks(Maker.head(), Maker.codedChunk(224, 5, "5d", data.substring(0, 2 * m)), 5);
-            IntervalPacker x = due.refuses(m + " bytes", container, DATA, 30);
-            int taken = x.count(0);
-            due.is("bits of " + m + " bytes", taken > before, true);
-            if (taken < s.bits()) {
-                due.is("RANGE is below then", s.bit(taken)[0] < 0x1000000, true);
+        Steps[] rows = {new Steps(93).literals("6162636465"), new Steps(93).literals("61626364").copy(2, 200),
+            new Steps(93).literals("61").repeated(3, 100).single(), new Steps(93).literals("61").copy(1L << 32, 2),
+            new Steps(93).literals("61").copy((1L << 31) + 1, 273)};
+        for (Steps s : rows) {
+            String data = s.data();
+            int n = s.gift();
+            int before = 0;
+            for (int m = 5; m < data.length() / 2; m++) {
+                String chunk = Maker.codedChunk(224, n, "5d", data.substring(0, 2 * m));
+                IntervalPacker x = due.refuses(m + " bytes", Maker.ofChunks(Maker.head(), chunk, n), DATA, 30);
+                due.is("bits of " + m + " bytes", x.count(0), s.bitsWith(m));
+                due.is("more than with a byte less", s.bitsWith(m) > before, true);
+                before = s.bitsWith(m);
             }
-            before = taken;
+            due.is("bits in all", s.bitsWith(data.length() / 2), s.bits());
         }
     }
 
@@ -523,6 +528,39 @@ public final class CoderBoundsTest {
         }
     }
 
+    /** "For each state and q: MATCH, LONG": the last q of a state, and the first one of the next state. */
+    private static void probabilitiesForEachStateAndQ() {
+        for (int state = 0; state < 11; state++) {
+            Steps s = new Steps(180).literals("303132");
+            for (int i = 0; i < 4; i++) {
+                reachAt(s, state, 15);
+                s.single();
+                reachAt(s, state + 1, 0);
+                s.repeated(0, 2);
+            }
+            takes("single bytes in state " + state + ", repeated ones in the next", s);
+            Steps t = new Steps(180).literals("303132");
+            for (int i = 0; i < 4; i++) {
+                reachAt(t, state, 15);
+                t.literal(0x50);
+                reachAt(t, state + 1, 0);
+                t.copy(2, 2);
+            }
+            takes("literals in state " + state + ", copies in the next", t);
+        }
+    }
+
+    /** Steps until the coder is in a state and P has these lowest four bits. */
+    private static void reachAt(Steps s, int state, int q) {
+        int needed = reach(new Steps(0).literals("303132"), state).size() - 3;
+        for (int i = 0; i < 24 && (s.state() != 0 || (s.size() + needed) % 16 != q); i++) {
+            s.literal(0x30 + i);
+        }
+        reach(s, state);
+        due.is("state", s.state(), state);
+        due.is("q", s.size() % 16, q);
+    }
+
     /** "R3, r2, r1 become r2, r1, r0"; "r0 is what r(k) was, and r0 .. r(k - 1) move up by one". */
     private static void distancesMoveUp() {
         for (int a = 0; a <= 3; a++) {
@@ -568,6 +606,31 @@ public final class CoderBoundsTest {
                 u.copy(2 + i % 5, 2 + i % 8).copy(3 + i % 4, 10 + i * 3 % 8);
             }
             takes("lengths with pb " + pb, u);
+        }
+    }
+
+    /** "A tree of 3 bits for q": that of the last q ends before the tree of 8 bits, which is one for all. */
+    private static void lengthsForEachQ() {
+        for (int q : new int[] {0, 7, 8, 14, 15}) {
+            for (boolean again : new boolean[] {false, true}) {
+                Steps s = new Steps(45 * 4);
+                for (int i = 0; i < 3; i++) {
+                    for (int length : new int[] {17, 18, 9, 19, 10, 25, 2, 50, 17, 9}) {
+                        while (s.size() % 16 != q || s.size() == 0) {
+                            s.literal(0x40 + s.size() % 9);
+                        }
+                        if (s.size() + length > 380) {
+                            break;
+                        }
+                        if (again) {
+                            s.repeated(0, length);
+                        } else {
+                            s.copy(1 + i, length);
+                        }
+                    }
+                }
+                takes("lengths at q " + q, s);
+            }
         }
     }
 

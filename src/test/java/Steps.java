@@ -302,6 +302,15 @@ final class Steps {
         return hex.toString();
     }
 
+    /** How many bits of the chunk are taken when its data have m bytes. */
+    int bitsWith(int m) {
+        int taken = 0;
+        for (int i = chunkBits; i < bits.size() && 5 + shiftsBehind.get(i) <= m; i++) {
+            taken++;
+        }
+        return taken;
+    }
+
     /** How many bytes the chunk gives as it is now. */
     int gift() {
         return given.size() - chunkStart;

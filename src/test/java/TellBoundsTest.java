@@ -23,6 +23,7 @@ public final class TellBoundsTest {
         whereBeforeTheFirst();
         whereOfTheLatest();
         whereFromZeroTo640();
+        whereOfItemsBehind640();
         whereIsLeftByOtherCalls();
         watchFromOneOn();
         watchFromTheNextUnpackOn();
@@ -192,6 +193,42 @@ public final class TellBoundsTest {
         due.is("bytes", more.length() / 2, 636);
         due.refuses("the byte behind the end", more + "00", FORM, 636);
         due.refuses("608 bytes behind the end", small + "00".repeat(608), FORM, 32);
+    }
+
+    /** CUT in a full row: every item that would go on behind its last byte, at that item's first byte. */
+    private static void whereOfItemsBehind640() {
+        for (int sort : new int[] {0, 1, 4}) {
+            for (int n = 330; n <= 400; n++) {
+                String plain = "61".repeat(n);
+                String block = Maker.head(60, "002101") + Maker.plainChunk(1, plain) + "00";
+                String check = Maker.check(sort, plain);
+                String whole = Maker.start(sort) + Maker.filled(block) + check
+                        + Maker.close(Maker.index((block.length() + check.length()) / 2, n), sort);
+                if (whole.length() / 2 <= 640) {
+                    due.takes(n + " bytes, sort " + sort, whole, plain);
+                } else {
+                    due.refuses(n + " bytes, sort " + sort, whole.substring(0, 1280), CUT, lastItem(n, check.length() / 2));
+                }
+            }
+        }
+        due.refuses("a block up to the last byte", Maker.start(0) + Maker.filled(Maker.head(155, "002101") + "00"), CUT, 640);
+    }
+
+    /** The last item that begins no later than at 640: a head of 244 bytes and a plain chunk of n are before it. */
+    private static int lastItem(int n, int check) {
+        int chunk = 12 + 244;
+        int last = n <= 640 - chunk - 3 ? chunk + 3 + n : chunk + 3;
+        int filling = chunk + 3 + n + 1;
+        int index = (filling + 3) / 4 * 4 + check;
+        for (int place = filling; place < index - check && place <= 640; place++) {
+            last = place;
+        }
+        // the check, 0, the number of blocks, SIZE and the gift of two bytes each, two that fill up, the sum, the end
+        for (int place : new int[] {index - check, index, index + 1, index + 2, index + 4, index + 6, index + 7, index + 8,
+            index + 12}) {
+            last = place <= 640 ? place : last;
+        }
+        return last;
     }
 
     private static void whereIsLeftByOtherCalls() {
@@ -495,9 +532,8 @@ public final class TellBoundsTest {
         due.is("five bytes", counts(3, data.substring(0, 10)), "9 1 0 0 0 0 0 0 0 1 0");
         for (int m = 6; m < size; m++) {
             String told = counts(3, data.substring(0, 2 * m));
-            int bits = Integer.parseInt(told.substring(0, told.indexOf(' ')));
-            due.is("bits of " + m + " bytes", bits > 9 && s.bit(bits)[0] < 0x1000000, true);
-            due.is("literals of " + m + " bytes", told.substring(told.indexOf(' ') + 1), bits / 9 + " 0 0 0 0 0 0 0 1 0");
+            int bits = s.bitsWith(m);
+            due.is("of " + m + " bytes", told, bits + " " + bits / 9 + " 0 0 0 0 0 0 0 1 0");
         }
         due.is("a byte more", counts(3, data + "00"), "27 3 0 0 0 0 0 0 0 1 0");
         due.is("four bytes", counts(3, data.substring(0, 8)), "0 0 0 0 0 0 0 0 0 1 0");
