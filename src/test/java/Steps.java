@@ -69,6 +69,10 @@ final class Steps {
         return state;
     }
 
+    int properties() {
+        return properties;
+    }
+
     /** r(k). */
     long distance(int k) {
         return r[k];
