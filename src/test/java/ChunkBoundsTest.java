@@ -419,7 +419,8 @@ public final class ChunkBoundsTest {
                     IntervalPacker x = new IntervalPacker();
                     Due.fill(x, container, true);
                     int answer = x.unpack();
-                    due.is("c " + c + " with other probabilities", answer == DATA || !Due.hexOf(x, false).equals(s.given()), true);
+                    boolean isOther = answer == DATA || !Due.hexOf(x, false).equals(s.given());
+                    due.is("c " + c + " with other probabilities", isOther, true);
                 }
             }
         }

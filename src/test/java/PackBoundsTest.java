@@ -477,7 +477,8 @@ public final class PackBoundsTest {
         for (int i = 0; i < 112; i++) {
             hex += String.format("%02x", (i * 91 + 7) & 255);
         }
-        packs("a SIZE of 127", hex.substring(2), 0, 0, 400, Maker.ofChunks(Maker.head(), Maker.plainChunk(1, hex.substring(2)), 111));
+        String less = hex.substring(2);
+        packs("a SIZE of 127", less, 0, 0, 400, Maker.ofChunks(Maker.head(), Maker.plainChunk(1, less), 111));
         packs("a SIZE of 128", hex, 0, 0, 400, Maker.ofChunks(Maker.head(), Maker.plainChunk(1, hex), 112));
     }
 

@@ -29,6 +29,7 @@ public final class TellBoundsTest {
         watchFromTheNextUnpackOn();
         watchInEachOfThem();
         watchUntilAnotherIsTold();
+        refusedCallsLeaveTheNextUnpack();
         rangeOfTheFirstAndTheLastBit();
         rangeOverChunksAndBlocks();
         rangeUpToAFault();
@@ -211,7 +212,8 @@ public final class TellBoundsTest {
                 }
             }
         }
-        due.refuses("a block up to the last byte", Maker.start(0) + Maker.filled(Maker.head(155, "002101") + "00"), CUT, 640);
+        String block = Maker.filled(Maker.head(155, "002101") + "00");
+        due.refuses("a block up to the last byte", Maker.start(0) + block, CUT, 640);
     }
 
     /** The last item that begins no later than at 640: a head of 244 bytes and a plain chunk of n are before it. */
@@ -315,6 +317,28 @@ public final class TellBoundsTest {
             x.pack(0, 0, 1);
             Due.fill(x, packed, true);
         }
+    }
+
+    /** A refused call of any kind leaves to the next unpack() what it had: PACKED and the bit that is watched. */
+    private static void refusedCallsLeaveTheNextUnpack() {
+        Steps s = new Steps(93).literals("616263").repeated(0, 200);
+        IntervalPacker x = ofSteps(s);
+        x.watch(11);
+        due.is("unpack()", x.unpack(), 203);
+        kept("before", x, s.bit(11)[0], s.bit(11)[1]);
+        due.is("feed", x.feed(1, 9, true), NONE);
+        due.is("feed", x.feed(1, 0, false), NONE);
+        due.is("copy", x.copy(204, 1), NONE);
+        due.is("cut", x.cut(-1, true), NONE);
+        due.is("change", x.change(0, 256), NONE);
+        due.is("pack", x.pack(2, 93, 400), FORM);
+        due.is("pack", x.pack(0, 93, 1), LONG);
+        due.is("watch", x.watch(0), false);
+        due.is("count", x.count(11), NONE);
+        due.is("at", x.at(640, true), NONE);
+        due.is("unpack()", x.unpack(), 203);
+        kept("behind", x, s.bit(11)[0], s.bit(11)[1]);
+        due.is("PLAIN", Due.hexOf(x, false), s.given());
     }
 
     /** "Until another k is told": the later one counts alone. */
