@@ -37,6 +37,7 @@ public final class CoderBoundsTest {
         distancesByLength();
         distancesAtTheirBounds();
         distancesBeyondAll();
+        distancesBeyondAllBehindNearOnes();
         distanceAtMostP();
         repeatedDistanceAtMostP();
         noCopyBehindN();
@@ -700,6 +701,27 @@ public final class CoderBoundsTest {
         }
         Steps greatest = new Steps(93).literals("61").copy(1L << 32, 2);
         refuses("2^32", greatest);
+    }
+
+    /** The greatest x have probabilities that no near distance shares: RANGE and CODE behind each bit tell it. */
+    private static void distancesBeyondAllBehindNearOnes() {
+        for (int x = 56; x <= 63; x++) {
+            long least = (2L + x % 2 << (x / 2 - 1)) + 1;
+            for (int length = 2; length <= 5; length++) {
+                Steps s = new Steps(93).literals("6162636465666768696a6b6c6d6e6f70");
+                for (int near : new int[] {5, 6, 7, 8, 9, 12, 13, 16, 5, 7, 5}) {
+                    s.copy(near, length);
+                }
+                s.copy(least, length);
+                int bits = s.bits();
+                String container = container(s);
+                IntervalPacker y = due.refuses("distance " + least, container, DATA, 30);
+                due.is("bits", y.count(0), bits);
+                for (int k = bits - x / 2 - 12; k <= bits; k++) {
+                    bit("bit " + k, container, k, s.bit(k)[0], s.bit(k)[1]);
+                }
+            }
+        }
     }
 
     /** "A distance is at most P": P is taken, P + 1 is not. */
